@@ -315,6 +315,7 @@ public final class ModelTest {
         final Model model;
         final int spread;
         final int cutsOf100;
+        final int writesOf100;
         int wrong = 0;
 
         Run(int seed) {
@@ -327,6 +328,7 @@ public final class ModelTest {
             model = new Model(blocks, bucket, bits);
             spread = random.nextBoolean() ? model.span : Math.min(model.span, 2 << random.nextInt(5));
             cutsOf100 = random.nextInt(3) * 20;
+            writesOf100 = random.nextBoolean() ? 20 : 2;
         }
 
         int odd(int ordinary) {
@@ -362,7 +364,7 @@ public final class ModelTest {
             } else if (kind < 57) {
                 int[] at = somePlace();
                 due("delete(" + at[0] + ", " + at[1] + ")", store.delete(at[0], at[1]), model.delete(at[0], at[1]));
-            } else if (kind < 80) {
+            } else if (kind < 100 - writesOf100) {
                 ask();
             } else {
                 writeOrCut();

@@ -278,6 +278,14 @@ public final class PromiseTest {
         s.delete(1, 1);
         s.abort();
         due("7: behind abort()", s.differs(), 0);
+        PointStore fresh = plain();
+        fresh.insert(8, 8, 8);
+        due("7: nothing COMMITTED", fresh.differs(), 1);
+        fresh.commit();
+        fresh.delete(8, 8);
+        fresh.insert(8, 7, 8);
+        due("7: none in both", fresh.differs(), 2);
+        dueResults("7: none in both", fresh, 8, 7, 8, 8, 8, NONE);
     }
 
     private static void promise8() {
@@ -404,6 +412,13 @@ public final class PromiseTest {
         due("13: as behind it", s.count(1), 0);
         due("13: a CUT goes with no POINTS too", s.arm(0, 128), true);
         due("13: a CUT goes with no POINTS too", s.format(), OFF);
+        PointStore full = row(60);
+        for (int i = 0; i < 60; i++) {
+            full.insert(1, 1, i);
+        }
+        due("13: behind 60 CHANGES", full.format(), 0);
+        due("13: behind 60 CHANGES", full.recover(), 0);
+        due("13: behind 60 CHANGES", full.count(1), 0);
     }
 
     private static void promise14() {
@@ -465,6 +480,7 @@ public final class PromiseTest {
         allOff(on);
         due("15: and back", on.recover(), 0);
         due("15: COMMITTED", on.get(1, 1, 1), 1);
+        cutTwice();
         for (int n = 0; n <= 256; n++) {
             for (int again = NONE; again <= 256; again += 1 + n % 97) {
                 cutCommit(0, n, again);
@@ -472,6 +488,24 @@ public final class PromiseTest {
                 cutFormat(0, n, again);
                 cutFormat(1, n, again);
             }
+        }
+    }
+
+    /** What one log has done must not be done again when the next one has no SEAL. */
+    private static void cutTwice() {
+        for (int n = 0; n <= 256; n++) {
+            PointStore s = beforeCut();
+            s.arm(1, n);
+            s.commit();
+            s.recover();
+            for (int i = 0; i < 7; i++) {
+                s.insert(20 + i, 20, 20);
+            }
+            s.arm(0, 256 - n);
+            due("15: cut twice: commit()", s.commit(), OFF);
+            due("15: cut twice: recover()", s.recover(), 0);
+            s.window(0, 0, 0, 63, 63);
+            dueResults("15: cut twice", s, 1, 1, 10, 2, 2, 20, 4, 4, 4);
         }
     }
 
