@@ -343,6 +343,26 @@ public final class BoundaryTest {
         }
     }
 
+    /** As many steps back as there were onward must not bring an earlier STATE's TREE back. */
+    private static void treeIsOfTheStateAsItIsNow() {
+        for (int i = 0; i < 3; i++) {
+            for (int more = 0; more < 4; more++) {
+                PointStore s = new PointStore(64, 1, 4);
+                s.insert(0, 0, 1);
+                s.commit();
+                s.insert(15, 15, 2);
+                due("NODES ahead of it", s.count(2), 3);
+                for (int n = 0; n < more; n++) {
+                    s.insert(15, 15, 3 + n);
+                }
+                due("its answer", i == 0 ? s.abort() : i == 1 ? s.format() : s.recover(), i == 0 ? 1 + more : 0);
+                due("NODES behind it", s.count(2), 1);
+                dueNode(s, 0, 0, 16, 0, 0, i == 1 ? 0 : 1, 0, i == 1 ? 0 : 1);
+                dueNode(s, 1, 0, 16, 0, 0, i == 1 ? 0 : 1, 0, i == 1 ? 0 : 1);
+            }
+        }
+    }
+
     private static void meterGoesDownTo0() {
         PointStore s = new PointStore(6, 1, 4);
         due("a new object", s.count(4), 5);
@@ -742,7 +762,10 @@ public final class BoundaryTest {
         return new int[] {x, y};
     }
 
-    /** 298 POINTS, COMMITTED, in the order of quarters: 1 + 341 NODES with the first 256, 2 + 21 + 21 + 1 + 5 + 5 + 3 with the others. */
+    /**
+     * 298 COMMITTED POINTS in the order of quarters: 1 + 341 NODES with the first 256,
+     * 2 + 21 + 21 + 1 + 5 + 5 + 3 more with the others.
+     */
     private static PointStore ofAllBlocks() {
         PointStore s = new PointStore(400, 1, 5);
         for (int i = 0; i < 298; i++) {
@@ -1194,6 +1217,10 @@ public final class BoundaryTest {
         due("y1", s.sum(0, 10, 10, 20, 19), 5);
         due("one place", s.sum(0, 20, 10, 20, 10), 4);
         due("the wrong way around", s.sum(0, 20, 20, 10, 10), 0);
+        s.delete(20, 20);
+        due("the last one left", s.sum(0, 0, 0, 255, 255), 7);
+        s.abort();
+        due("no POINTS", s.sum(0, 0, 0, 255, 255), 0);
     }
 
     private static void sumOfMoreThan150() {
@@ -1476,6 +1503,7 @@ public final class BoundaryTest {
         test("the ROOT first, then each child with all below it", BoundaryTest::eachChildWithAllBelowIt);
         test("a REGION's side is a power of 2", BoundaryTest::aRegionOfSide1IsTheSmallest);
         test("it hangs on the STATE alone", BoundaryTest::treeHangsOnTheStateAlone);
+        test("No TREE has anything else", BoundaryTest::treeIsOfTheStateAsItIsNow);
         test("THE METER is BLOCKS less the NODES", BoundaryTest::meterGoesDownTo0);
         test("NONE = -1, OFF = -2", BoundaryTest::theConstants);
     }
