@@ -1,5 +1,6 @@
 /**
- * A test of its own for each sentence of ../shared/DOC.md that names a boundary case; the sentence is the test's name.
+ * A test of its own for each sentence of ../shared/DOC.md that names a boundary case, and for cases that follow from one;
+ * a test is named by the sentence's words, or by the case.
  * No object is used for more than 512 calls, but in the one test of what comes behind them.
  */
 public final class BoundaryTest {
