@@ -553,23 +553,24 @@ public final class PointStore {
             int half = side >> 1;
             int begin = from;
             for (int quarter = 0; quarter < 4; quarter++) {
-                int x = lowX + (quarter & 1) * half;
-                int y = lowY + (quarter >> 1) * half;
-                int end = tree.gather(begin, to, x, y, half);
+                int right = (quarter & 1) * half;
+                int up = (quarter >> 1) * half;
+                int end = tree.gather(begin, to, keyOf(half, half), keyOf(right, up));
                 if (end > begin) {
                     tree.facts[at + 4] |= 1 << quarter;
-                    grow(tree, begin, end, x, y, level + 1);
+                    grow(tree, begin, end, lowX + right, lowY + up, level + 1);
                 }
                 begin = end;
             }
         }
 
-        // Brings the POINTS of a REGION ahead of the others from begin to end; tells where they end.
-        private int gather(int begin, int end, int lowX, int lowY, int side) {
+        // Brings the POINTS of a quarter ahead of the others from begin to end; tells where they end.
+        // As all are of one NODE, a bit of x and one of y tell them apart: its half, which is a power of 2.
+        private int gather(int begin, int end, int bitsAtHalf, int wanted) {
             int next = begin;
             for (int i = begin; i < end; i++) {
                 int point = order[i];
-                if (isWithin(points.keys[point], lowX, lowY, lowX + side - 1, lowY + side - 1)) {
+                if ((points.keys[point] & bitsAtHalf) == wanted) {
                     order[i] = order[next];
                     order[next] = point;
                     next++;

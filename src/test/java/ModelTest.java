@@ -4,7 +4,10 @@ import java.util.List;
 import java.util.Random;
 import java.util.TreeMap;
 
-/** Runs of 512 calls, drawn from fixed seeds, against a slow model that follows the document word by word. */
+/**
+ * Runs of 512 calls, drawn from fixed seeds, and every short row of calls with cuts and recoveries, against a slow
+ * model that follows the document word by word.
+ */
 public final class ModelTest {
     private static final int RUNS = 1500;
     private static final int CALLS = 512;
@@ -474,6 +477,76 @@ public final class ModelTest {
         }
     }
 
+    /** Every row of so many calls out of ten that change something, behind the same few calls. */
+    private static final class EveryRow {
+        static final int KINDS = 10;
+        static final int LENGTH = 5;
+
+        int rows = 0;
+        int wrong = 0;
+
+        void play() {
+            int all = (int) Math.pow(KINDS, LENGTH);
+            for (rows = 0; rows < all; rows++) {
+                PointStore store = new PointStore(4, 1, 2);
+                Model model = new Model(4, 1, 2);
+                StringBuilder calls = new StringBuilder();
+                store.insert(0, 0, 1);
+                model.insert(0, 0, 1);
+                store.insert(3, 3, 2);
+                model.insert(3, 3, 2);
+                due("commit", store.commit(), model.commit());
+                store.window(1, 0, 0, 3, 3);
+                model.window(1, 0, 0, 3, 3);
+                store.insert(0, 0, 3);
+                model.insert(0, 0, 3);
+                for (int i = 0, rest = rows; i < LENGTH; i++, rest /= KINDS) {
+                    calls.append(' ').append(rest % KINDS);
+                    oneCall(calls.toString(), store, model, rest % KINDS);
+                }
+                same("behind" + calls, store, model);
+                due("recover behind" + calls, store.recover(), model.recover());
+                same("recovered behind" + calls, store, model);
+            }
+        }
+
+        void oneCall(String calls, PointStore store, Model model, int kind) {
+            switch (kind) {
+                case 0 -> due("insert" + calls, store.insert(0, 1, 4), model.insert(0, 1, 4));
+                case 1 -> due("delete" + calls, store.delete(0, 0), model.delete(0, 0));
+                case 2 -> due("commit" + calls, store.commit(), model.commit());
+                case 3 -> due("abort" + calls, store.abort(), model.abort());
+                case 4 -> due("format" + calls, store.format(), model.format());
+                case 5 -> due("recover" + calls, store.recover(), model.recover());
+                case 6 -> due("differs" + calls, store.differs(), model.differs());
+                default -> due("arm" + calls, store.arm(kind - 7, 128) ? 1 : 0, model.arm(kind - 7, 128) ? 1 : 0);
+            }
+        }
+
+        void same(String when, PointStore store, Model model) {
+            due(when + ": size", store.size(), model.results.size());
+            for (int i = 0; i < 9; i++) {
+                due(when + ": result", store.result(i / 3, i % 3), model.result(i / 3, i % 3));
+            }
+            for (int what = 0; what <= 7; what++) {
+                due(when + ": count(" + what + ")", store.count(what), model.count(what));
+            }
+            for (int s = 0; s < 2; s++) {
+                for (int at = 0; at < 4; at++) {
+                    due(when + ": get", store.get(s, at, at), model.get(s, at, at));
+                }
+                due(when + ": get", store.get(s, 0, 1), model.get(s, 0, 1));
+                due(when + ": node", store.node(s, 1, 5), model.node(s, 1, 5));
+            }
+        }
+
+        void due(String call, long got, long want) {
+            if (got != want && wrong++ < 5) {
+                System.out.println(call + " answered " + got + ", due is " + want);
+            }
+        }
+    }
+
     /** What calls beyond the 512th answer is free, but they must end and throw nothing. */
     private static void playOn() {
         PointStore store = new PointStore(400, 8, 8);
@@ -496,8 +569,12 @@ public final class ModelTest {
         for (int seed = 0; seed < RUNS; seed++) {
             wrong += new Run(seed).play();
         }
+        EveryRow every = new EveryRow();
+        every.play();
+        wrong += every.wrong;
         playOn();
-        System.out.println(wrong == 0 ? RUNS + " runs are as the model has them" : wrong + " answers are not as due");
+        String right = RUNS + " runs and " + every.rows + " rows of calls are as the model has them";
+        System.out.println(wrong == 0 ? right : wrong + " answers are not as due");
         if (wrong != 0) {
             System.exit(1);
         }

@@ -653,6 +653,20 @@ public final class PromiseTest {
         due("17: NODES", deep.count(2), 17);
     }
 
+    /** README.md's example, call by call. */
+    private static void readme() {
+        PointStore store = new PointStore(64, 4, 8);
+        due("README: insert()", store.insert(10, 20, 7), 0);
+        due("README: commit()", store.commit(), 1);
+        due("README: window()", store.window(1, 0, 0, 99, 99), 1);
+        due("README: result()", store.result(0, 2), 7);
+        due("README: arm()", store.arm(1, 128), true);
+        due("README: delete()", store.delete(10, 20), 0);
+        due("README: commit()", store.commit(), OFF);
+        due("README: recover()", store.recover(), 0);
+        due("README: get()", store.get(1, 10, 20), NONE);
+    }
+
     public static void main(String[] args) {
         due("NONE", PointStore.NONE, -1);
         due("OFF", PointStore.OFF, -2);
@@ -673,6 +687,7 @@ public final class PromiseTest {
         promise15();
         promise16();
         promise17();
+        readme();
         System.out.println(wrong == 0 ? "all promises hold" : wrong + " answers are not as due");
         if (wrong != 0) {
             System.exit(1);
